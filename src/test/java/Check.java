@@ -18,8 +18,24 @@ final class Check {
         due(call, holds ? 1 : 0, 1);
     }
 
+    /** As above, with the line of the test in place of the call's name. */
+    static void due(long got, long want) {
+        due(got == want ? "" : place(), got, want);
+    }
+
+    private static String place() {
+        return StackWalker.getInstance().walk(frames -> frames
+            .filter(frame -> frame.getClassName().endsWith("Test"))
+            .map(frame -> frame.getFileName() + ":" + frame.getLineNumber())
+            .findFirst().orElse("a call"));
+    }
+
     static boolean failed() {
         return wrong != 0;
+    }
+
+    static int wrongSoFar() {
+        return wrong;
     }
 
     static void finish() {

@@ -25,6 +25,7 @@ public final class FaceTest {
         fields();
         constructors();
         constants();
+        classesInside();
         Check.finish();
     }
 
@@ -78,5 +79,20 @@ public final class FaceTest {
         Check.due("FULL", ForkedPages.FULL, -7);
         Check.due("NO_ROOM", ForkedPages.NO_ROOM, -8);
         Check.due("NOTHING", ForkedPages.NOTHING, 1L << 40);
+    }
+
+    private static void classesInside() {
+        Set<String> faceNames = new TreeSet<>();
+        for (String method : METHODS) {
+            faceNames.add(method.substring(method.indexOf(' ') + 1, method.indexOf('[')));
+        }
+        for (Class<?> inside : ForkedPages.class.getDeclaredClasses()) {
+            int modifiers = inside.getModifiers();
+            Check.due(inside + " static", Modifier.isStatic(modifiers));
+            Check.due(inside + " hidden", !Modifier.isPublic(modifiers) && !Modifier.isProtected(modifiers));
+            for (Method method : inside.getDeclaredMethods()) {
+                Check.due(method + " has a name of its own", !faceNames.contains(method.getName()));
+            }
+        }
     }
 }

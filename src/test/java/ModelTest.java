@@ -9,7 +9,8 @@ public final class ModelTest {
     private static final int RUNS = 3000;
     private static final int CALLS = 512;
     private static final int[] EDGES = {
-        Integer.MIN_VALUE, -65, -64, -5, -4, -3, -1, 5, 31, 32, 64, 65, 127, 255, 256, 257, 1 << 20, Integer.MAX_VALUE};
+        Integer.MIN_VALUE, -65, -64, -5, -4, -3, -2, -1, 5, 31, 32, 63, 64, 65, 127, 255, 256, 257, 1 << 20, 1 << 30,
+        Integer.MAX_VALUE - 1, Integer.MAX_VALUE};
 
     private final ForkedPages pages = new ForkedPages();
     private final PlainModel model = new PlainModel();
