@@ -2,7 +2,7 @@
 public final class OrderTest extends Boundary {
     private static final Scene BRIM = Scene.BRIM;
 
-    /** As BRIM, the least and the greatest wrong process, page and address. */
+    /** The nearest wrong numbers; in MIXED and BRIM the processes 3 and 4 do not run. */
     private static final int[] NO_PROCESSES = {-1, 3, 4, 5};
     private static final int[] NO_PAGES = {-1, 64};
     private static final int[] NO_ADDRESSES = {-1, 256};

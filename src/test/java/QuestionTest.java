@@ -222,7 +222,7 @@ public final class QuestionTest extends Boundary {
 
     // All of them
 
-    @Says("a call that is refused answers a code below 0 and changes nothing")
+    @Says("Nothing is promised beyond the answers and state changes described above")
     static void questionsChangeNothing() {
         for (Scene scene : new Scene[] {Scene.NEW, Scene.MIXED, Scene.BRIM, Scene.FIVE_BRIM}) {
             scene.isLeftAloneBy(ForkedPages::free);

@@ -186,6 +186,7 @@ final class Scene {
         x.protect(0, 63, false);
         x.fork(0);
         x.write(1, 0, -7);
+        Check.due(x.free(), 1);
     }
 
     private static void shareFourPages(ForkedPages x) {
