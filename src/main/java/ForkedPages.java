@@ -373,14 +373,15 @@ public final class ForkedPages {
         }
 
         private static int tablesFor(long pageSet) {
-            return 1 + spansUsed(pageSet, MIDDLE_SPAN) + spansUsed(pageSet, LOWEST_SPAN);
+            return 1 + spansUsed(pageSet, PAGES / MIDDLE_SPAN, MIDDLE_SPAN)
+                + spansUsed(pageSet, PAGES / LOWEST_SPAN, LOWEST_SPAN);
         }
 
-        private static int spansUsed(long pageSet, int span) {
-            long wholeSpan = (1L << span) - 1L;
+        private static int spansUsed(long pageSet, int spans, int pagesInSpan) {
+            long wholeSpan = (1L << pagesInSpan) - 1L;
             int used = 0;
-            for (int first = 0; first < PAGES; first += span) {
-                if ((pageSet >>> first & wholeSpan) != 0L) {
+            for (int span = 0; span < spans; span++) {
+                if ((pageSet >>> span * pagesInSpan & wholeSpan) != 0L) {
                     used++;
                 }
             }
@@ -403,13 +404,15 @@ public final class ForkedPages {
             return used;
         }
 
-        /** Asked only when a frame is free, so the last one needs no look: it is free if all before it are used. */
+        /** Asked only when a frame is free; which of them it answers does not show. */
         private int unusedFrame() {
-            int frame = 0;
-            while (frame < FRAMES - 1 && counts[frame] > 0) {
-                frame++;
+            int unused = 0;
+            for (int frame = 0; frame < FRAMES; frame++) {
+                if (counts[frame] == 0) {
+                    unused = frame;
+                }
             }
-            return frame;
+            return unused;
         }
 
         private void blank(int frame) {
